@@ -529,6 +529,7 @@ public final class PromiseTests {
         due("count(7)", x.count(7), 8);
         for (int k = 7; k >= 0; k--) {
             due("undo() of the last 8", x.undo(), k);
+            due("days then", x.count(4), 3 + k);
         }
         due("undo() of a ninth", x.undo(), NO);
         due("three days stay", x.count(4), 3);
@@ -646,12 +647,19 @@ public final class PromiseTests {
         NailedYears low = laid("w3,3;n0,1,1,0;");
         due("3 by 3 less one: room(0)", low.room(0), 3);
         due("3 by 3 less one: room(1)", low.room(1), 3);
+        NailedYears corners = laid("w3,3;n0,4,1,0;");
+        due("the corners: room(0)", corners.room(0), 4);
+        corners.drive(0, 0, 1, 0);
+        due("three corners: room(0)", corners.room(0), 3);
+        due("three corners: room(1)", corners.room(1), 2);
     }
 
     private static void p19Blows() {
         promise = "19 blows";
         String quiet = "d0,0;d1,0;d2,0;d3,0;d4,0;";
         NailedYears x = laid("n0,0,3,1;n1,1,4,1;n0,2,2,1;" + quiet + "b3;");
+        due("blows(1)", x.blows(1), 0);
+        due("behind(60, 1, 0) ahead of it", x.behind(60, 1, 0), 0);
         due("blows(2)", x.blows(2), 0);
         due("blows(3)", x.blows(3), 1);
         due("blows(6): 2 less each", x.blows(6), 2);
@@ -895,6 +903,34 @@ public final class PromiseTests {
         // z 1: x 7920, 62726400 % 65521 = 22803, draw 2850: damp 0, 178 % 4 = 2: no bell.
         due("no bell by 1", bell.century(1, 1, 1), 1);
         due("none out by 1", bell.century(1, 1, 0), 0);
+        centuryOfDamp();
+    }
+
+    /** By z 2 no bell on three days; damp of columns 0 to 5: 1 3 5 7 9 0, then 0 9 9 8 7 6, then 4 1 8 5 1 8. */
+    private static void centuryOfDamp() {
+        NailedYears one = laid("w2,6;n0,0,1,1;n0,1,1,1;n0,2,1,1;n0,3,1,1;n0,4,1,1;n0,5,1,1;b1;d0,9;");
+        due("10 of rust on no first day", one.century(2, 1, 0), 0);
+        due("all loose", one.century(2, 1, 1), 6);
+        due("columns 1 to 4 by the second day", one.century(2, 2, 0), 4);
+        due("columns 0 and 5 are loose", one.century(2, 2, 1), 2);
+        due("columns 1 to 5 by the third day", one.century(2, 3, 0), 5);
+        due("column 0 is loose", one.century(2, 3, 1), 1);
+        NailedYears two = laid("w2,6;n0,0,2,1;n0,1,2,1;n0,2,2,1;n0,3,2,1;n0,4,2,1;n0,5,2,1;");
+        due("columns 2 and 3 by 22 and 20", two.century(2, 3, 0), 2);
+        // By z 3 the bell rings on the first day alone; damp then 3 3 2 1 0 9, then 8 5 2 8 5 1, then 9 3 7 2 5 9.
+        due("by 3, one bell and 11 or 10 of rust: columns 0 and 5", two.century(3, 2, 0), 2);
+        due("by 3, all by the third day", two.century(3, 3, 0), 6);
+        NailedYears known = laid("w3,4;n0,0,4,1;n4,1,4,2;n4,2,5,4;n3,3,6,8;n2,4,4,16;n1,5,3,32;n0,9,2,3;n0,10,2,12;"
+            + "d0,5;d1,0;d2,9;b3;");
+        int[] z = {0, 77, 5000, 9999};
+        int[] out = {7, 1, 2, 4};
+        int[] loose = {0, 1, 5, 4};
+        for (int k = 0; k < z.length; k++) {
+            due("century(" + z[k] + ", 4, 0)", known.century(z[k], 4, 0), out[k]);
+            due("century(" + z[k] + ", 4, 1)", known.century(z[k], 4, 1), loose[k]);
+            due("century(" + z[k] + ", 60, 0)", known.century(z[k], 60, 0), 8);
+            due("century(" + z[k] + ", 60, 1)", known.century(z[k], 60, 1), 0);
+        }
     }
 
     private static void p28Keep() {
