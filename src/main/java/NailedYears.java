@@ -28,7 +28,7 @@ public final class NailedYears {
 
     private final Text text = new Text();
     private final Items items = new Items();
-    private final Wall now = new Wall();
+    private final Wall now = firstWall();
     private final Wall ahead = new Wall();
     private final Walls past = new Walls(UNDOABLE);
     private final Walls kept = new Walls(KEEPABLE);
@@ -37,11 +37,6 @@ public final class NailedYears {
     private final Gaps gaps = new Gaps();
 
     public NailedYears() {
-        for (int k = 0; k < FIRST_TEXT.length(); k++) {
-            text.add(FIRST_TEXT.charAt(k));
-        }
-        items.readInto(text, now);
-        text.clear();
     }
 
     // ---- walls
@@ -396,6 +391,16 @@ public final class NailedYears {
 
     // ---- what the calls above need
 
+    private static Wall firstWall() {
+        Text first = new Text();
+        for (int k = 0; k < FIRST_TEXT.length(); k++) {
+            first.add(FIRST_TEXT.charAt(k));
+        }
+        Wall wall = new Wall();
+        new Items().readInto(first, wall);
+        return wall;
+    }
+
     private static boolean isKind(int kind) {
         return kind >= 0 && kind < NAIL_KINDS;
     }
@@ -635,7 +640,7 @@ public final class NailedYears {
         }
 
         private boolean takeDamp(Wall wall) {
-            if (found != 2 || !wall.hasColumn(number(0)) || number(1) < 0 || number(1) > DAMPEST) {
+            if (found != 2 || !wall.hasColumn(number(0)) || number(1) > DAMPEST) {
                 return false;
             }
             wall.setDamp(number(0), number(1));
@@ -1094,15 +1099,9 @@ public final class NailedYears {
         private static final int SETS = 1 << LONGEST_SIDE;
 
         private final int[] open = new int[LONGEST_SIDE];
-        // most[r][set]: how many cells from row r on, if those of row r are 'set'; -1 if they can not be.
+        // most[r][set]: how many cells from row r on, if those of row r are 'set'; 0 if they can not be,
+        // and in the row beyond the last one.
         private final int[][] most = new int[LONGEST_SIDE + 1][SETS];
-
-        Gaps() {
-            int[] beyond = most[LONGEST_SIDE];
-            for (int set = 1; set < beyond.length; set++) {
-                beyond[set] = -1;
-            }
-        }
 
         int mostIn(Wall wall) {
             findOpen(wall);
@@ -1112,7 +1111,7 @@ public final class NailedYears {
             return mostWithout(0, most[0]);
         }
 
-        /** Behind mostIn: if no set of a row is one of as many, that row is empty in all of these. */
+        /** After mostIn: a row of which no set gives as many is empty in all that are as many. */
         int lowestOf(int all, Wall wall) {
             for (int r = 0; r < LONGEST_SIDE; r++) {
                 int column = lowestColumn(all, most[r]);
@@ -1153,7 +1152,7 @@ public final class NailedYears {
         private static void fillRow(int[] row, int openCells, int[] below) {
             for (int set = 0; set < row.length; set++) {
                 boolean can = (set & ~openCells) == 0 && (set & set << 1) == 0;
-                row[set] = can ? Integer.bitCount(set) + mostWithout(set, below) : -1;
+                row[set] = can ? Integer.bitCount(set) + mostWithout(set, below) : 0;
             }
         }
 
