@@ -1,90 +1,44 @@
 /** Each promise by answers that were worked out by hand: ordinary ones, the edges, and wrong inputs. */
-public final class PromiseTests {
-    private static final int BAD = NailedYears.BAD, NO = NailedYears.NO, FULL = NailedYears.FULL, NONE = NailedYears.NONE;
-    private static final int LEAST = Integer.MIN_VALUE, MOST = Integer.MAX_VALUE;
-
-    private static int wrong = 0;
-    private static String promise = "";
-
+public final class PromiseTests extends Checks {
     public static void main(String[] args) {
-        theConstants();
-        p1ANewObject();
-        p2Write();
-        p3Wipe();
-        p4Fault();
-        p5Lay();
-        p6Nail();
-        p7Cell();
-        p8Damp();
-        p9Pass();
-        p9Rust();
-        p9Bell();
-        p9Mixing();
-        p10Hammer();
-        p11Oil();
-        p12Pull();
-        p13Drive();
-        p14Undo();
-        p15Behind();
-        p16First();
-        p17Clash();
-        p18Room();
-        p19Blows();
-        p20LetOut();
-        p21From();
-        p22Measure();
-        p23Forget();
-        p24Kinds();
-        p25Damps();
-        p26Shaken();
-        p27Century();
-        p28Keep();
-        p29Back();
-        p30Count();
-        System.out.println(wrong == 0 ? "all promises hold" : wrong + " answers are not as due");
-        if (wrong != 0) {
-            System.exit(1);
-        }
-    }
-
-    private static void due(String what, int got, int want) {
-        if (got != want) {
-            wrong++;
-            System.out.println(promise + ": " + what + " answered " + got + ", due is " + want);
-        }
-    }
-
-    private static void writeAll(NailedYears x, String text) {
-        for (int k = 0; k < text.length(); k++) {
-            x.write(text.charAt(k));
-        }
-    }
-
-    private static NailedYears laid(String text) {
-        NailedYears x = new NailedYears();
-        writeAll(x, text);
-        if (x.lay() < 1) {
-            wrong++;
-            System.out.println(promise + ": " + text + " was not laid");
-        }
-        return x;
-    }
-
-    private static void fault(String text, int place) {
-        NailedYears x = new NailedYears();
-        writeAll(x, text);
-        due("fault() of " + text, x.fault(), place);
-    }
-
-    /** What is so of a nail: how deep, its rust, its year. */
-    private static void stands(NailedYears x, int i, int deep, int rust, int year) {
-        due("nail(" + i + ", 2)", x.nail(i, 2), deep);
-        due("nail(" + i + ", 3)", x.nail(i, 3), rust);
-        due("nail(" + i + ", 4)", x.nail(i, 4), year);
+        test("constants", PromiseTests::theConstants);
+        test("1 a new object", PromiseTests::p1ANewObject);
+        test("2 write", PromiseTests::p2Write);
+        test("3 wipe", PromiseTests::p3Wipe);
+        test("4 fault", PromiseTests::p4Fault);
+        test("5 lay", PromiseTests::p5Lay);
+        test("6 nail", PromiseTests::p6Nail);
+        test("7 cell", PromiseTests::p7Cell);
+        test("8 damp", PromiseTests::p8Damp);
+        test("9 pass", PromiseTests::p9Pass);
+        test("9 pass: rust", PromiseTests::p9Rust);
+        test("9 pass: the bell", PromiseTests::p9Bell);
+        test("9 pass: mixing", PromiseTests::p9Mixing);
+        test("10 hammer", PromiseTests::p10Hammer);
+        test("11 oil", PromiseTests::p11Oil);
+        test("12 pull", PromiseTests::p12Pull);
+        test("13 drive", PromiseTests::p13Drive);
+        test("14 undo", PromiseTests::p14Undo);
+        test("15 behind", PromiseTests::p15Behind);
+        test("16 first", PromiseTests::p16First);
+        test("17 clash", PromiseTests::p17Clash);
+        test("18 room", PromiseTests::p18Room);
+        test("19 blows", PromiseTests::p19Blows);
+        test("20 letOut", PromiseTests::p20LetOut);
+        test("21 from", PromiseTests::p21From);
+        test("22 measure", PromiseTests::p22Measure);
+        test("23 forget", PromiseTests::p23Forget);
+        test("24 kinds", PromiseTests::p24Kinds);
+        test("25 damps", PromiseTests::p25Damps);
+        test("26 shaken", PromiseTests::p26Shaken);
+        test("27 century", PromiseTests::p27Century);
+        test("28 keep", PromiseTests::p28Keep);
+        test("29 back", PromiseTests::p29Back);
+        test("30 count", PromiseTests::p30Count);
+        end();
     }
 
     private static void theConstants() {
-        promise = "constants";
         due("BAD", BAD, -1);
         due("NO", NO, -2);
         due("FULL", FULL, -3);
@@ -92,7 +46,6 @@ public final class PromiseTests {
     }
 
     private static void p1ANewObject() {
-        promise = "1 a new object";
         NailedYears x = new NailedYears();
         int[] counts = {20, 6, 0, 1, 0, 5, 0, 0, 0, 0};
         for (int what = 0; what < counts.length; what++) {
@@ -115,7 +68,6 @@ public final class PromiseTests {
     }
 
     private static void p2Write() {
-        promise = "2 write";
         NailedYears x = new NailedYears();
         due("write(31)", x.write(31), BAD);
         due("write(127)", x.write(127), BAD);
@@ -133,7 +85,6 @@ public final class PromiseTests {
     }
 
     private static void p3Wipe() {
-        promise = "3 wipe";
         NailedYears x = new NailedYears();
         due("wipe() of none", x.wipe(), 0);
         writeAll(x, "b5;x");
@@ -146,7 +97,6 @@ public final class PromiseTests {
     }
 
     private static void p4Fault() {
-        promise = "4 fault";
         fault("", NONE);
         fault("w4,5;n0,0,1,0;d0,0;b1;", NONE);
         fault("n4,19,9,63;n2,18,4,0;d4,9;b30;", NONE);
@@ -224,7 +174,6 @@ public final class PromiseTests {
     }
 
     private static void p5Lay() {
-        promise = "5 lay";
         NailedYears x = new NailedYears();
         x.pass(1);
         x.keep();
@@ -262,7 +211,6 @@ public final class PromiseTests {
     }
 
     private static void p6Nail() {
-        promise = "6 nail";
         NailedYears x = laid("n4,7,3,21;n0,8,1,3;n0,9,2,4;");
         int[] nail = {4, 7, 3, 0, 21, 0};
         for (int what = 0; what < nail.length; what++) {
@@ -284,7 +232,6 @@ public final class PromiseTests {
     }
 
     private static void p7Cell() {
-        promise = "7 cell";
         NailedYears x = laid("w3,2;n0,5,3,1;n0,2,3,1;");
         due("cell(5)", x.cell(5), 0);
         due("cell(2)", x.cell(2), 1);
@@ -299,7 +246,6 @@ public final class PromiseTests {
     }
 
     private static void p8Damp() {
-        promise = "8 damp";
         NailedYears x = laid("w2,6;n0,0,3,1;d0,0;d5,9;d5,8;");
         due("damp(0)", x.damp(0), 0);
         due("damp(1)", x.damp(1), 1);
@@ -310,7 +256,6 @@ public final class PromiseTests {
     }
 
     private static void p9Pass() {
-        promise = "9 pass";
         NailedYears x = laid("n1,0,9,1;b30;");
         due("pass(0)", x.pass(0), BAD);
         due("pass(31)", x.pass(31), BAD);
@@ -326,7 +271,6 @@ public final class PromiseTests {
     }
 
     private static void p9Rust() {
-        promise = "9 pass: rust";
         NailedYears x = laid("w2,3;n0,0,3,1;n1,1,3,2;n4,2,3,4;n3,3,1,8;d0,9;d1,9;d2,5;b30;");
         x.pass(1);
         stands(x, 0, 3, 9, 1);
@@ -350,7 +294,6 @@ public final class PromiseTests {
     }
 
     private static void p9Bell() {
-        promise = "9 pass: the bell";
         String dry = "d0,0;d1,0;d2,0;d3,0;b2;";
         // CROOKED ones lean right whatever is there, but not round the wall's edge.
         NailedYears x = laid("w2,4;n4,0,5,0;n3,1,5,0;n2,2,4,0;n4,3,5,0;n0,4,5,0;n4,5,5,0;n4,6,5,0;" + dry);
@@ -384,7 +327,6 @@ public final class PromiseTests {
     }
 
     private static void p9Mixing() {
-        promise = "9 pass: mixing";
         String quiet = "d0,0;d1,0;d2,0;b30;";
         NailedYears x = laid("w2,3;n0,0,2,1;n0,2,2,2;n0,1,1,4;n0,3,2,8;n0,4,3,16;n1,5,2,32;" + quiet);
         due("nothing mixes as it is laid", x.nail(0, 4), 1);
@@ -410,7 +352,6 @@ public final class PromiseTests {
     }
 
     private static void p10Hammer() {
-        promise = "10 hammer";
         NailedYears x = laid("n0,0,6,1;n2,1,1,1;n3,2,5,1;n1,3,1,1;n4,4,1,1;");
         due("iron", x.hammer(0), 8);
         due("9 at most", x.hammer(0), 9);
@@ -430,7 +371,6 @@ public final class PromiseTests {
     }
 
     private static void p11Oil() {
-        promise = "11 oil";
         NailedYears x = laid("n0,0,6,1;n3,1,6,1;d0,4;d1,3;b30;");
         x.pass(2);
         due("oil(0)", x.oil(0), 8);
@@ -448,7 +388,6 @@ public final class PromiseTests {
     }
 
     private static void p12Pull() {
-        promise = "12 pull";
         NailedYears x = laid("n3,0,6,1;n0,1,9,2;");
         x.pass(1);
         due("pull(0, 1)", x.pull(0, 1), 5);
@@ -470,7 +409,6 @@ public final class PromiseTests {
     }
 
     private static void p13Drive() {
-        promise = "13 drive";
         NailedYears x = laid("w3,3;n0,0,3,1;");
         due("kind 5", x.drive(5, 1, 1, 0), BAD);
         due("kind -1", x.drive(-1, 1, 1, 0), BAD);
@@ -501,7 +439,6 @@ public final class PromiseTests {
     }
 
     private static void p14Undo() {
-        promise = "14 undo";
         NailedYears x = laid("n0,0,5,1;n0,1,2,2;d0,3;d1,0;b30;");
         due("undo() of none", x.undo(), NO);
         x.pass(3);
@@ -537,7 +474,6 @@ public final class PromiseTests {
     }
 
     private static void p15Behind() {
-        promise = "15 behind";
         NailedYears x = laid("n0,0,3,1;n0,1,2,2;d0,4;d1,0;b4;");
         due("behind(0, 0, 0)", x.behind(0, 0, 0), 3);
         due("behind(2, 0, 1)", x.behind(2, 0, 1), 8);
@@ -564,7 +500,6 @@ public final class PromiseTests {
     }
 
     private static void p16First() {
-        promise = "16 first";
         String quiet = "d0,0;d1,0;d2,0;";
         NailedYears x = laid("n0,0,9,1;n0,1,4,2;n0,2,4,2;" + quiet + "b30;");
         due("first(0) on the 60th", x.first(0), 1);
@@ -591,7 +526,6 @@ public final class PromiseTests {
     }
 
     private static void p17Clash() {
-        promise = "17 clash";
         String quiet = "d0,0;d1,0;d2,0;d3,0;";
         NailedYears x = laid("n0,0,2,1;n0,1,3,2;n0,2,2,1;" + quiet + "b30;");
         due("clash(0)", x.clash(0), 1);
@@ -618,7 +552,6 @@ public final class PromiseTests {
     }
 
     private static void p18Room() {
-        promise = "18 room";
         NailedYears x = laid("w2,2;n0,0,3,1;");
         due("room(0)", x.room(0), 1);
         due("room(1)", x.room(1), 3);
@@ -655,7 +588,6 @@ public final class PromiseTests {
     }
 
     private static void p19Blows() {
-        promise = "19 blows";
         String quiet = "d0,0;d1,0;d2,0;d3,0;d4,0;";
         NailedYears x = laid("n0,0,3,1;n1,1,4,1;n0,2,2,1;" + quiet + "b3;");
         due("blows(1)", x.blows(1), 0);
@@ -686,7 +618,6 @@ public final class PromiseTests {
     }
 
     private static void p20LetOut() {
-        promise = "20 letOut";
         NailedYears x = laid("n0,0,9,1;n0,1,5,3;n0,2,5,3;n0,3,3,4;n0,4,2,8;n0,5,1,8;");
         due("of several the lowest", x.letOut(0, 0), 1);
         due("by how much", x.letOut(0, 1), 3);
@@ -707,7 +638,6 @@ public final class PromiseTests {
     }
 
     private static void p21From() {
-        promise = "21 from";
         // Cells 0, 1, 2 along the first row, 7 below 2; 19 hangs together with none.
         NailedYears x = laid("n0,0,5,1;n0,1,5,2;n0,2,5,1;n0,7,5,3;n0,19,5,1;");
         due("from(0, 0)", x.from(0, 0), 13);
@@ -736,7 +666,6 @@ public final class PromiseTests {
     }
 
     private static void p22Measure() {
-        promise = "22 measure";
         NailedYears x = laid("n0,0,5,1;n0,1,1,1;");
         due("measure(2, 1, 1)", x.measure(2, 1, 1), BAD);
         due("measure(-1, 1, 1)", x.measure(-1, 1, 1), BAD);
@@ -759,7 +688,6 @@ public final class PromiseTests {
     }
 
     private static void p23Forget() {
-        promise = "23 forget";
         NailedYears x = laid("n0,0,5,1;b1;d0,0;");
         due("forget() of none", x.forget(), 0);
         x.measure(0, 1, 9);
@@ -774,7 +702,6 @@ public final class PromiseTests {
     }
 
     private static void p24Kinds() {
-        promise = "24 kinds";
         NailedYears x = laid("n0,0,8,1;n0,1,8,1;d0,5;d1,0;b2;");
         due("nothing measured", x.kinds(0), 31);
         // Behind 2 days: iron 6, silver 7, horseshoe 5, bent 7, crooked 6.
@@ -810,7 +737,6 @@ public final class PromiseTests {
     }
 
     private static void p25Damps() {
-        promise = "25 damps";
         NailedYears x = laid("w2,3;n0,0,5,1;n1,3,5,1;n0,1,5,1;d0,3;d1,3;b30;");
         due("nothing measured", x.damps(0), 1023);
         x.measure(0, 2, 4);
@@ -842,7 +768,6 @@ public final class PromiseTests {
     }
 
     private static void p26Shaken() {
-        promise = "26 shaken";
         NailedYears x = laid("n0,0,4,1;n2,1,4,1;n3,2,3,1;n0,3,2,1;d0,0;d1,0;d2,0;d3,0;b1;");
         // At most one bell of 4: (5 ^ 4 + 4 * 5 ^ 4) of 10 ^ 4.
         due("shaken(0, 4, 5, 0)", x.shaken(0, 4, 5, 0), 5);
@@ -880,7 +805,6 @@ public final class PromiseTests {
     }
 
     private static void p27Century() {
-        promise = "27 century";
         NailedYears x = new NailedYears();
         due("century(5, 60, 0)", x.century(5, 60, 0), 6);
         due("century(5, 60, 1)", x.century(5, 60, 1), 0);
@@ -934,7 +858,6 @@ public final class PromiseTests {
     }
 
     private static void p28Keep() {
-        promise = "28 keep";
         NailedYears x = laid("n0,0,5,1;");
         due("keep()", x.keep(), 1);
         due("keep() again", x.keep(), 2);
@@ -946,7 +869,6 @@ public final class PromiseTests {
     }
 
     private static void p29Back() {
-        promise = "29 back";
         NailedYears x = laid("n0,0,5,1;d0,3;b30;");
         due("back() of none", x.back(), NO);
         x.pass(2);
@@ -974,7 +896,6 @@ public final class PromiseTests {
     }
 
     private static void p30Count() {
-        promise = "30 count";
         NailedYears x = laid("w3,6;n0,0,5,1;n0,1,1,1;n0,2,2,1;b9;");
         x.pull(1, 1);
         x.drive(0, 4, 1, 1);
