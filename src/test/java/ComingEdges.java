@@ -379,7 +379,7 @@ public final class ComingEdges extends Checks {
 
     private static void letOut() {
         sentence("LET OUT a DEED (0 to 5)", ComingEdges::letOutZeroToFive);
-        sentence("that one that has to be PULLED least to be LOOSE, of several the lowest", ComingEdges::letOutOfSeveral);
+        sentence("of NAILS in whose YEAR it is that one that has to be PULLED least to be LOOSE, of several the lowest", ComingEdges::letOutOfSeveral);
         sentence("by how much (0: it is); none.", ComingEdges::letOutOfLooseOnes);
         sentence("by how much (0: it is); none.", ComingEdges::letOutOfNone);
         sentence("LET OUT: which (what = 0), by how much (1). NONE; BAD.", ComingEdges::letOutBad);

@@ -18,6 +18,7 @@ public final class DayEdges extends Checks {
 
     private static void rustOfDays() {
         sentence("A DAY (1 is the first)", DayEdges::theFirstDayIsOne);
+        sentence("one step behind the other", DayEdges::oneStepBehindTheOther);
         sentence("each NAIL has as much more as the DAMP of its COLUMN (SILVER none)", DayEdges::rustByDamp);
         sentence("who has 10 or more then loses 10 of it, and is 1 less deep.", DayEdges::rustOfTen);
     }
@@ -33,6 +34,24 @@ public final class DayEdges extends Checks {
         deep(second, 9);
         second.pass(1);
         deep(second, 8);
+    }
+
+    private static void oneStepBehindTheOther() {
+        // Rust, then the bell, then mixing: from 4 to 2 and mixed on one day.
+        NailedYears mixed = laid("w2,2;n0,0,4,1;n0,1,4,2;d0,5;d1,5;b2;");
+        mixed.pass(1);
+        years(mixed, 1, 2);
+        mixed.pass(1);
+        stands(mixed, 0, 2, 0, 3);
+        stands(mixed, 1, 2, 0, 3);
+        // From 3 to 1: mixed on that day, too; a horseshoe is out ahead of mixing, and nothing of it stays.
+        NailedYears loose = laid("w2,2;n0,0,3,1;n3,1,2,2;d0,5;d1,0;b2;");
+        loose.pass(2);
+        stands(loose, 0, 1, 0, 3);
+        NailedYears out = laid("w2,2;n2,0,3,1;n3,1,2,2;d0,5;d1,0;b2;");
+        out.pass(2);
+        stands(out, 0, 0, 0, 0);
+        stands(out, 1, 2, 0, 2);
     }
 
     private static void rustByDamp() {
@@ -437,6 +456,7 @@ public final class DayEdges extends Checks {
     private static void undoneAsIfNot(String call, ToIntFunction<NailedYears> done) {
         NailedYears x = standing();
         done.applyAsInt(x);
+        due("behind(0, 0, 0) of " + call, x.behind(0, 0, 0), x.nail(0, 2));
         due("undo() of " + call, x.undo(), 1);
         same("what stands behind " + call + " undone", everything(x), everything(standing()));
     }
@@ -459,6 +479,12 @@ public final class DayEdges extends Checks {
         again.undo();
         again.drive(0, 8, 9, 1);
         stands(again, 3, 9, 0, 1);
+        NailedYears firm = laid("n1,0,9,0;" + QUIET);
+        firm.drive(0, 2, 2, 1);
+        due("loose", firm.first(0), 1);
+        firm.undo();
+        due("none is loose", firm.first(0), NONE);
+        due("no deed", firm.letOut(0, 0), NONE);
     }
 
     private static void daysAtOneTimeAreOne() {

@@ -415,6 +415,7 @@ public final class PastEdges extends Checks {
         sentence("DAMP of COLUMN c on the k-th (0 first) is DRAW modulo 10", PastEdges::centuryOfDamp);
         sentence("if (DRAW by 16, cut) modulo 4 is 0 for COLUMN 0", PastEdges::centuryOfBells);
         sentence("DRAW being ((x times x) modulo 65521) by 8, cut", PastEdges::centuryBeyondAnInt);
+        sentence("x 7919 z, 6151 k, 331 c and 1 together", PastEdges::centuryByDayAndColumn);
         sentence("how many NAILS come OUT; how many are LOOSE then.", PastEdges::centuryOut);
         sentence("A CENTURY: OUT (what = 0), LOOSE (1). BAD.", PastEdges::centuryBad);
     }
@@ -490,6 +491,23 @@ public final class PastEdges extends Checks {
         for (int k = 0; k < days.length; k++) {
             century(x, 9999, days[k], bells[k], Math.min(2, 9 - bells[k]));
         }
+    }
+
+    /** A bent one 9 deep is out by 90 of damp. */
+    private static void centuryByDayAndColumn() {
+        NailedYears first = laid("w2,6;n3,0,9,1;");
+        NailedYears last = laid("w2,6;n3,5,9,1;");
+        int[][] days = {{9999, 20, 21}, {0, 22, 22}, {82, 15, 17}};
+        for (int[] z : days) {
+            due("column 0, the day ahead", first.century(z[0], z[1] - 1, 0), 0);
+            due("column 0", first.century(z[0], z[1], 0), 1);
+            due("column 5, the day ahead", last.century(z[0], z[2] - 1, 0), 0);
+            due("column 5", last.century(z[0], z[2], 0), 1);
+        }
+        due("the driest: column 0, behind 29", first.century(8125, 29, 0), 0);
+        due("the driest: column 0, behind 30", first.century(8125, 30, 0), 1);
+        due("the driest: column 5, behind 29", last.century(9627, 29, 0), 0);
+        due("the driest: column 5, behind 30", last.century(9627, 30, 0), 1);
     }
 
     private static void centuryOut() {

@@ -16,6 +16,7 @@ public final class RefusalEdges extends Checks {
         sentence("FULL.", RefusalEdges::full);
         sentence("Of several the first in this order, whatever the order at a call;", RefusalEdges::badAheadOfAll);
         sentence("Of several the first in this order, whatever the order at a call;", RefusalEdges::noAheadOfFull);
+        sentence("nothing changes then.", RefusalEdges::nothingChangesByManyRefusals);
         sentence("An object is used for at most 512 calls after it has been made", RefusalEdges::fiveHundredAndTwelveCalls);
         test("asking changes nothing", RefusalEdges::askingChangesNothing);
         end();
@@ -278,6 +279,27 @@ public final class RefusalEdges extends Checks {
         refused(RefusalEdges::most, "drive(0, 18, 1, 0)", x -> x.drive(0, 18, 1, 0), NO);
         refused(RefusalEdges::most, "drive(2, 2, 4, 63)", x -> x.drive(2, 2, 4, 63), NO);
         refused(RefusalEdges::most, "drive(2, 19, 4, 63), freed", x -> x.drive(2, 19, 4, 63), FULL);
+    }
+
+    /** One behind the other, of all four sorts, on one object. */
+    private static void nothingChangesByManyRefusals() {
+        NailedYears x = most();
+        int[] got = {x.write(127), x.pass(0), x.pass(31), x.hammer(9), x.oil(-1), x.pull(1, 0), x.pull(0, 10),
+            x.drive(0, 18, 10, 0), x.measure(1, 31, 0), x.kinds(9), x.damps(5), x.first(2), x.clash(2), x.room(2)};
+        for (int answer : got) {
+            due("of those that are none", answer, BAD);
+        }
+        int[] not = {x.lay(), x.hammer(0), x.hammer(8), x.oil(0), x.pull(0, 1), x.pull(8, 9), x.drive(0, 18, 9, 0),
+            x.from(0, 0), x.kinds(3), x.shaken(6, 8, 5, 0)};
+        for (int answer : not) {
+            due("of those that are not as things stand", answer, NO);
+        }
+        due("cell(0)", x.cell(0), NONE);
+        due("blows(30)", x.blows(30), NONE);
+        due("drive(0, 0, 1, 0)", x.drive(0, 0, 1, 0), FULL);
+        due("measure(1, 1, 1)", x.measure(1, 1, 1), FULL);
+        due("keep()", x.keep(), FULL);
+        same("what stands behind them all", everything(x), everything(most()));
     }
 
     // ---- runs

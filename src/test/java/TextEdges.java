@@ -388,9 +388,9 @@ public final class TextEdges extends Checks {
         sentence("A letter (32 to 126, as in ASCII) comes behind THE TEXT: how long it is. BAD; FULL.", TextEdges::write);
         sentence("THE TEXT is empty: how long it was.", TextEdges::wipe);
         sentence("FAULT. NONE.", TextEdges::faultOrNone);
-        sentence("no DAY gone by, nothing MEASURED, UNDONE, KEPT;", TextEdges::layEndsAll);
+        sentence("LAID: how many NAILS; no DAY gone by, nothing MEASURED, UNDONE, KEPT;", TextEdges::layEndsAll);
         sentence("THE TEXT stays. NO.", TextEdges::theTextStays);
-        sentence("Of a NAIL: KIND (what = 0), CELL (1;", TextEdges::nailSlots);
+        sentence("how deep (2), RUST (3), YEAR (4)", TextEdges::nailSlots);
         sentence("CELL (1; of an OUT one that in which it was)", TextEdges::cellOfAnOutOne);
         sentence("1 if it is LOOSE (5; OUT ones are not). BAD.", TextEdges::outOnesAreNotLoose);
         sentence("The NAIL in a CELL. NONE; BAD.", TextEdges::cell);
