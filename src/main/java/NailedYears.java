@@ -333,7 +333,7 @@ public final class NailedYears {
         if (now.at(i).isOut()) {
             return NO;
         }
-        int above = firmCourses(i, now, n, x);
+        int above = firmCourses(courses, now, i, n, x);
         int below = tenTo(n);
         int common = greatestCommon(above, below);
         if (common < 1) {
@@ -470,7 +470,7 @@ public final class NailedYears {
     }
 
     /** Of the ten to the power of 'left' equal courses of the bell: those behind which the nail is firm. */
-    private int firmCourses(int i, Wall wall, int left, int x) {
+    private static int firmCourses(Walls courses, Wall wall, int i, int left, int x) {
         // A nail never gets deeper by itself, so one that is not firm now is not so later.
         if (wall.at(i).deep < FIRM) {
             return 0;
@@ -486,12 +486,12 @@ public final class NailedYears {
         if (x > 0) {
             next.copy(wall);
             next.passDay(true);
-            firm += x * firmCourses(i, next, left - 1, x);
+            firm += x * firmCourses(courses, next, i, left - 1, x);
         }
         if (x < TENTHS) {
             next.copy(wall);
             next.passDay(false);
-            firm += (TENTHS - x) * firmCourses(i, next, left - 1, x);
+            firm += (TENTHS - x) * firmCourses(courses, next, i, left - 1, x);
         }
         return firm;
     }
